@@ -840,12 +840,8 @@ public final class StatuteBook {
             cells.set((size - 1) * OPERATION_CELLS + cell, value);
         }
 
-        int wordCount() {
-            return cells.get((size - 1) * OPERATION_CELLS + WORD_COUNT);
-        }
-
         void addWord(int word) {
-            int length = wordCount();
+            int length = cells.get((size - 1) * OPERATION_CELLS + WORD_COUNT);
             put(WORDS + length, word);
             put(WORD_COUNT, length + 1);
         }
@@ -1078,11 +1074,10 @@ public final class StatuteBook {
             return passes("in") ? CHANGE : NONE;
         }
 
+        /** Leaves a word beyond the limit where it is: what comes next finds its first byte out of place. */
         private void readWords() {
-            for (int i = 0; i <= MAX_WORDS && fault == NONE && isAtWord(); i++) {
-                if (draft.wordCount() == MAX_WORDS) {
-                    fail(place);
-                } else if (text.byteAt(place) == '@') {
+            for (int i = 0; i < MAX_WORDS && fault == NONE && isAtWord(); i++) {
+                if (text.byteAt(place) == '@') {
                     place++;
                     draft.addWord(REFERENCE + readNumber());
                 } else {
@@ -1469,7 +1464,9 @@ public final class StatuteBook {
                 int clause = queue.get(i);
                 for (int k = 0; k < law.length(clause); k++) {
                     int target = law.target(clause, k);
-                    comesBack |= target == first;
+                    if (target == first) {
+                        comesBack = true;
+                    }
                     if (target != NONE && law.code(target) != 0) {
                         meet(target, distances.get(clause) + 1);
                     }

@@ -11,7 +11,10 @@ public final class LawTest {
         clauseParts();
         find();
         printing();
+        printedLetters();
         longPrint();
+        fullTexts();
+        allAmendments();
         CHECK.end();
     }
 
@@ -129,6 +132,34 @@ public final class LawTest {
         CHECK.due("it leaves the output", book.count(5), 34);
         CHECK.due("print of nothing", book.print(0, -1), 0);
         CHECK.due("it leaves no byte", book.printed(0), -1);
+    }
+
+    private static void printedLetters() {
+        StatuteBook book = Check.bookOf("1 insert 1AA;insert 1A;insert 1AZ;insert 1ZA;insert 1Z;insert 1ZZ;insert 10");
+        CHECK.dueLaw(book, 1, -1, "1A/1AA/1AZ/1Z/1ZA/1ZZ/10/");
+    }
+
+    /** A change stays within its own clause, also if that has all six words. */
+    private static void fullTexts() {
+        StatuteBook book = Check.bookOf("1 insert 1 5 5 5 5 5 5;insert 2 5 5 5 5 5 5;insert 3 5", "2 in 1 for 5 put 6",
+                "3 in 2 for 5 put 7");
+        CHECK.dueLaw(book, 2, -1, "1 6 6 6 6 6 6/2 5 5 5 5 5 5/3 5/");
+        CHECK.dueLaw(book, 3, -1, "1 6 6 6 6 6 6/2 7 7 7 7 7 7/3 5/");
+    }
+
+    /** Twenty amendments on twenty days that run against their numbers. */
+    private static void allAmendments() {
+        StatuteBook book = new StatuteBook();
+        for (int a = 0; a < 20; a++) {
+            Check.enact(book, a == 19 ? "insert 1 19" : "in 1 for " + (a + 1) + " put " + a, 119 - a);
+        }
+        for (int a = 19; a >= 0; a--) {
+            CHECK.dueLaw(book, 119 - a, -1, "1 " + a + "/");
+            CHECK.due("effective " + a, book.amendment(a, 3), 1);
+        }
+        CHECK.due("effects", book.tally(0), 20);
+        CHECK.due("history", book.history(0, 19, 2), 0);
+        CHECK.due("no more history", book.history(0, 20, 2), -1);
     }
 
     private static void longPrint() {

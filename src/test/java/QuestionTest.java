@@ -12,6 +12,9 @@ public final class QuestionTest {
         tally();
         conflicts();
         conflictOrder();
+        savingIsPlain();
+        fullLawAfterAnother();
+        shorterText();
         CHECK.end();
     }
 
@@ -174,6 +177,62 @@ public final class QuestionTest {
         book.revoke(2, true);
         CHECK.due("not with a revoked one", book.tally(6), 0);
         CHECK.due("none", book.conflict(0, 0), -1);
+    }
+
+    /** The plain law carries out what is saving too. */
+    private static void savingIsPlain() {
+        StatuteBook book = Check.bookOf("1 insert 1 5;insert 2 @1;insert 3 @2",
+                "2 in 1 for 5 put 6 saving;replace 2 @3 @3 saving", "3 repeal 1 saving;repeal 2 saving");
+        CHECK.due("old word", book.containing(2, 5), 0);
+        CHECK.due("new word", book.containing(2, 6), 1);
+        CHECK.due("old references", book.references(2, 0), 0);
+        CHECK.due("new references", book.references(2, 2), 2);
+        CHECK.due("void references", book.references(3, -1), 1);
+        dueReach(book, 2, 1, 2, 1, 1);
+        CHECK.due("repealed", book.reach(3, 1, 0), -3);
+        dueDifference(book, 1, 2, 0, 0, 0, 2);
+        dueDifference(book, 2, 3, 0, 2, 0, 0);
+        dueHistory(book, 0, new int[] {1, 0, 0}, new int[] {2, 4, 1}, new int[] {3, 2, 2});
+        CHECK.due("effects", book.tally(0), 7);
+    }
+
+    private static void fullLawAfterAnother() {
+        StatuteBook book = Check.bookOf("1 insert 1 5", "7 replace 1 6", "7 repeal 1;insert 9;insert 8");
+        int[] due = {1, 0, 2, 0, 0};
+        for (int what = 0; what < due.length; what++) {
+            book.clauses(1, 0);
+            CHECK.due("conflict 0 " + what, book.conflict(0, what), due[what]);
+        }
+        book.clauses(1, -1);
+        CHECK.due("clauses in the full law", book.count(8), 2);
+        book.clauses(1, -1);
+        CHECK.due("conflicts", book.tally(6), 1);
+        book.clauses(1, -1);
+        CHECK.due("effects of 2", book.amendment(2, 3), 3);
+        book.clauses(1, -1);
+        CHECK.due("status", book.operation(2, 0, 6), 0);
+        book.clauses(1, -1);
+        CHECK.due("history", book.history(0, 2, 0), 7);
+        book.clauses(1, -1);
+        long digest = book.digest();
+        CHECK.due("digest", book.digest(), digest);
+    }
+
+    /** What a replaced text said behind the end of the new one is gone. */
+    private static void shorterText() {
+        StatuteBook book = Check.bookOf("1 insert 1;insert 2 @1 7;insert 3 5 @1 7", "2 replace 2;replace 3 5", "3 repeal 1");
+        CHECK.due("references before", book.references(1, 0), 2);
+        CHECK.due("references then", book.references(2, 0), 0);
+        CHECK.due("void references", book.references(3, -1), 0);
+        CHECK.due("containing before", book.containing(1, 7), 2);
+        CHECK.due("containing then", book.containing(2, 7), 0);
+        dueReach(book, 1, 1, 2, 1, 0);
+        dueReach(book, 2, 1, 1, 0, 0);
+        dueReach(book, 2, 2, 1, 0, 0);
+        CHECK.due("word behind the end", book.textWord(2, -1, 2, 1), -2);
+        StatuteBook same = Check.bookOf("1 insert 1 5 6;insert 2", "2 replace 1 5", "3 replace 1 5 8", "4 replace 1 5");
+        dueDifference(same, 2, 4, 0, 0, 0, 0);
+        dueDifference(same, 1, 4, 0, 0, 0, 1);
     }
 
     private static void conflictOrder() {

@@ -90,6 +90,8 @@ public final class TextTest {
         fault("repea", 0);
         fault("Insert 1", 0);
         fault("insert a", 7);
+        fault("1", 0);
+        fault("insert 1;1 2", 9);
         fault("insert 1 saving", 9);
         fault("insert 1 to 2", 9);
         fault("renumber 1 too 2", 11);

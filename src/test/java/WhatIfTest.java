@@ -4,6 +4,8 @@ public final class WhatIfTest {
 
     public static void main(String[] args) {
         effect();
+        effectOnOneProperty();
+        savingIsPlain();
         fewestRevocations();
         fewestOfSeveral();
         noSet();
@@ -32,6 +34,34 @@ public final class WhatIfTest {
         CHECK.due("amendment 4", book.effect(4, 1), -2);
         CHECK.due("day -1", book.effect(0, -1), -2);
         CHECK.due("day 10000", book.effect(0, 10000), -2);
+    }
+
+    private static void effectOnOneProperty() {
+        StatuteBook book = Check.bookOf("1 insert 1 5;insert 2 5;insert 3 @1", "2 renumber 1 to 4",
+                "3 replace 2 6", "4 in 2 for 6 put 6", "5 insert 8;repeal 8", "6 replace 3 @2");
+        CHECK.due("another code", book.effect(1, 2), 1);
+        CHECK.due("another word", book.effect(2, 3), 1);
+        CHECK.due("the same word", book.effect(3, 4), 0);
+        CHECK.due("a clause that comes and goes", book.effect(4, 5), 0);
+        CHECK.due("another reference", book.effect(5, 6), 1);
+        CHECK.due("only before that", book.effect(0, 1), 3);
+        book.revoke(0, true);
+        CHECK.due("only after that", book.effect(0, 1), 3);
+    }
+
+    /** The plain law carries out what is saving too. */
+    private static void savingIsPlain() {
+        StatuteBook book = Check.bookOf("1 insert 1 5;insert 2 5;insert 4",
+                "2 in 1 for 5 put 6 saving;repeal 2 saving");
+        CHECK.due("effect of saving operations", book.effect(1, 2), 2);
+        CHECK.due("effect under saving operations", book.effect(0, 2), 2);
+        CHECK.due("word that is repealed", book.fewestRevocations(2, 5), 0);
+        CHECK.due("word that is put", book.fewestRevocations(2, 6), 1);
+        CHECK.due("number that is free again", book.between(2, Check.code("1")), Check.code("2"));
+        CHECK.due("clause that is repealed", book.between(2, Check.code("2")), -3);
+        CHECK.due("tidy", book.tidy(2), 2);
+        CHECK.due("its operations", book.amendment(2, 2), 1);
+        CHECK.due("its number", book.operation(2, 0, 2), Check.code("2"));
     }
 
     private static void fewestRevocations() {
