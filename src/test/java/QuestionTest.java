@@ -15,6 +15,7 @@ public final class QuestionTest {
         savingIsPlain();
         fullLawAfterAnother();
         shorterText();
+        mostConflicts();
         CHECK.end();
     }
 
@@ -233,6 +234,23 @@ public final class QuestionTest {
         StatuteBook same = Check.bookOf("1 insert 1 5 6;insert 2", "2 replace 1 5", "3 replace 1 5 8", "4 replace 1 5");
         dueDifference(same, 2, 4, 0, 0, 0, 0);
         dueDifference(same, 1, 4, 0, 0, 0, 1);
+    }
+
+    /** 120 operations of 15 amendments, all on one clause and one day. */
+    private static void mostConflicts() {
+        String seven = ";in1for5put5;in1for5put5;in1for5put5;in1for5put5;in1for5put5;in1for5put5;in1for5put5";
+        StatuteBook book = new StatuteBook();
+        for (int a = 0; a < 15; a++) {
+            CHECK.due("enact", Check.enact(book, (a == 0 ? "insert1 5" : "replace1 5") + seven, 0), a);
+        }
+        int conflicts = 15 * 14 / 2 * 8 * 8;
+        CHECK.due("effects", book.tally(0), 120);
+        CHECK.due("conflicts", book.tally(6), conflicts);
+        int[] last = {13, 7, 14, 7, 0};
+        for (int what = 0; what < last.length; what++) {
+            CHECK.due("last conflict " + what, book.conflict(conflicts - 1, what), last[what]);
+            CHECK.due("no more " + what, book.conflict(conflicts, what), -1);
+        }
     }
 
     private static void conflictOrder() {
