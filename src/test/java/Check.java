@@ -80,11 +80,18 @@ final class Check {
     }
 
     void dueLaw(StatuteBook book, int day, int caseDay, String want) {
-        String got = law(book, day, caseDay);
+        dueText("the law of " + day + ", " + caseDay, law(book, day, caseDay), want);
+    }
+
+    void dueLaw(Book book, int day, int caseDay, String want) {
+        dueText("the law of " + day + ", " + caseDay, book.law(day, caseDay), want);
+    }
+
+    private void dueText(String call, String got, String want) {
         asked++;
         if (!got.equals(want)) {
             wrong++;
-            System.out.println(name + ": the law of " + day + ", " + caseDay + " is " + got + ", due is " + want);
+            System.out.println(name + ": " + call + " is " + got + ", due is " + want);
         }
     }
 }

@@ -6,6 +6,8 @@ public final class ModelTest {
     private static final int RUNS = 1500;
     private static final int CALLS = 150;
     private static final int FAULTY_TEXTS = 40000;
+    /** Each run with a number that this divides starts near the limits. */
+    private static final int FULL_EACH = 5;
 
     private static final String[] NUMBERS = {"1", "2", "3", "4", "5", "1", "2", "3", "1A", "2A", "1B", "1AA", "2Z",
         "2ZZ", "10", "998ZZ", "999", "999ZY", "999ZZ"};
@@ -50,6 +52,10 @@ public final class ModelTest {
     }
 
     private boolean runs(int run) {
+        if (run % FULL_EACH == 0 && !fill()) {
+            System.out.println("run " + run + ": " + String.join(", ", calls));
+            return false;
+        }
         for (int i = 0; i < CALLS; i++) {
             if (!call()) {
                 System.out.println("run " + run + ": " + String.join(", ", calls));
@@ -57,6 +63,30 @@ public final class ModelTest {
             }
         }
         return agree("digest()", book.digest(), model.digest());
+    }
+
+    /** Starts near the limits: up to 40 clauses and 120 operations. */
+    private boolean fill() {
+        boolean alike = true;
+        for (int a = 0; a < 4; a++) {
+            StringBuilder text = new StringBuilder("insert" + (a + 1));
+            for (int i = 1; i < 10; i++) {
+                text.append(";insert").append(a + 1).append((char) ('A' + draw(i == 5 ? 1 : 26)));
+                text.append(text.length() < 110 && draw(2) == 0 ? "@" + (a + 1) : "");
+            }
+            text.setLength(Math.min(text.length(), 120));
+            int day = of(DAYS);
+            for (int i = 0; i < text.length() && alike; i++) {
+                alike = agree("type(" + (int) text.charAt(i) + ")", book.type(text.charAt(i)), model.type(text.charAt(i)));
+            }
+            alike = alike && agree("enact(" + day + ")", book.enact(day), model.enact(day));
+            alike = alike && agree("clear()", book.clear(), model.clear());
+        }
+        for (int i = draw(5); i > 0 && alike; i--) {
+            int day = of(DAYS);
+            alike = agree("tidy(" + day + ")", book.tidy(day), model.tidy(day));
+        }
+        return alike;
     }
 
     private boolean agree(String call, long got, long want) {
