@@ -20,6 +20,7 @@ public final class BoundaryQuestionTest {
         effectOfNothing();
         effectCountsAClauseOnce();
         effectToReinstate();
+        savingInThePlainLaw();
         noRevocation();
         oneRevocation();
         twoRevocations();
@@ -280,6 +281,24 @@ public final class BoundaryQuestionTest {
         CHECK.due("then", book.effect(1, 2), 2);
         CHECK.due("the other one then", book.effect(0, 2), 2);
         CHECK.due("still revoked", book.count(6), 2);
+    }
+
+    /** "The plain law on a day is the law without a case": nothing that is saving is left out, before or after that. */
+    private static void savingInThePlainLaw() {
+        Book book = Book.of("1 insert 1 5;insert 3 5", "2 in 1 for 5 put 6 saving;repeal 3 saving", "3 insert 2 7", "4 repeal 2 saving");
+        CHECK.due("effect of another one", book.effect(2, 3), 1);
+        CHECK.due("effect of the repeal", book.effect(3, 4), 1);
+        CHECK.due("effect of what is saving", book.effect(1, 4), 2);
+        CHECK.due("difference", book.difference(1, 2, 1), 1);
+        CHECK.due("difference of texts", book.difference(1, 2, 3), 1);
+        CHECK.due("difference back", book.difference(4, 3, 0), 1);
+        CHECK.due("containing", book.containing(2, 5), 0);
+        CHECK.due("reach", book.reach(4, 2, 0), -3);
+        CHECK.due("fewestRevocations", book.fewestRevocations(4, 5), 0);
+        CHECK.due("fewestRevocations of the new word", book.fewestRevocations(4, 6), 1);
+        CHECK.due("between", book.between(4, 729), 2 * 729);
+        CHECK.due("tidy", book.tidy(4), -3);
+        CHECK.due("clauses of the full law", book.count(8), 1);
     }
 
     // ---- fewestRevocations
