@@ -15,7 +15,8 @@ public final class LanguageTest {
     private static final String SOURCE = "src/main/java/StatuteBook.java";
     private static final Check CHECK = new Check("LanguageTest");
 
-    private static final String[] FACE = {
+    /** In the order of the promises, from 2 on. */
+    static final String[] FACE = {
         "int type(int)", "int clear()", "int enact(int)", "int revoke(int, boolean)", "int commence(int, int)",
         "int withdraw()", "int undo()", "int amendment(int, int)", "int operation(int, int, int)",
         "int word(int, int, int)", "int clauses(int, int)", "int clause(int, int, int, int)",
@@ -71,10 +72,14 @@ public final class LanguageTest {
         CHECK.dueTrue("a final class", Modifier.isFinal(StatuteBook.class.getModifiers()));
     }
 
+    static String nameOf(String signature) {
+        return signature.substring(signature.indexOf(' ') + 1, signature.indexOf('('));
+    }
+
     private static void namesInside() {
         Set<String> taken = new TreeSet<>();
         for (String each : FACE) {
-            taken.add(each.substring(each.indexOf(' ') + 1, each.indexOf('(')));
+            taken.add(nameOf(each));
         }
         for (Method method : StatuteBook.class.getDeclaredMethods()) {
             boolean isFree = Modifier.isPublic(method.getModifiers()) || !taken.contains(method.getName());
